@@ -106,7 +106,7 @@ public final class BatchesTest {
         checkBatch("it stays CUT", lane, 0, CUT, 5, 0, 106);
         DUE.is("by the other tool", BENT, () -> lane.work(1));
         DUE.is("no bends at all", BENT, () -> lane.work(2));
-        // The blank is as long, and the new drawing can be bent: 20 and 90 are within the gauge, the run is 34 at least.
+        // The blank is as long and 20 is within the gauge, but less than 30 and 2.
         draw(lane, 90, UP, 20);
         lane.redraw(0, 100, 2);
         DUE.fails("20 is SHORT", Due.STATE, () -> lane.work(0));

@@ -26,6 +26,8 @@ public final class BendsTest {
         flips();
         fewestTurnsFirst();
         firstOfSeveral();
+        twoTurns();
+        orderByOneCall();
         noOrder();
         orderFails();
         DUE.end();
@@ -124,6 +126,9 @@ public final class BendsTest {
         two.tool(20, 0, 200, 10, 600);
         DUE.is("faces run on at a bend that was not done", CAN, () -> two.why(0, 0, 0, 1));
         DUE.is("and not at one that was", SHORT, () -> two.why(0, 0, 1, 1));
+        PressbrakeLane long4 = withPart(1, "UDU", 30, 30, 10, 30);
+        long4.tool(18, 0, 200, 10, 600);
+        DUE.is("faces behind a bend that was done don't count", CAN, () -> long4.why(0, 0, 3, 2));
     }
 
     private static void whyGauge() {
@@ -292,8 +297,7 @@ public final class BendsTest {
         PressbrakeLane lane = withPart(1, "UDU", 30, 30, 30, 30);
         lane.tool(4, 0, 200, 10, 600);
         checkOrder("one turn instead of two", lane, 1, 0, 2, 1);
-        PressbrakeLane five = withPart(1, "DUDUD", 10, 10, 10, 10, 10, 10);
-        five.tool(4, 0, 200, 10, 600);
+        PressbrakeLane five = alternating();
         DUE.is("bend 4 behind 0 and 2", PUNCH, () -> five.why(0, 0, 5, 4));
         checkOrder("all DOWN ones, then all UP ones", five, 1, 0, 4, 2, 1, 3);
     }
@@ -310,6 +314,28 @@ public final class BendsTest {
         DUE.is("bend 1 behind bend 0", TABLE, () -> turned.why(0, 0, 1, 1));
         DUE.is("bend 0 behind bend 1", CAN, () -> turned.why(0, 0, 2, 0));
         checkOrder("two of one turn", turned, 1, 1, 0, 2);
+    }
+
+    private static void twoTurns() {
+        // Bend 1 is TABLE behind bend 2, and bend 0 is TABLE behind bend 1: only 0, 1, 2 is left.
+        PressbrakeLane lane = withPart(1, "UDU", 10, 10, 20, 20);
+        lane.tool(4, 0, 10, 100, 600);
+        DUE.is("bend 1 behind bend 2", TABLE, () -> lane.why(0, 0, 4, 1));
+        DUE.is("bend 0 behind bend 1", TABLE, () -> lane.why(0, 0, 2, 0));
+        checkOrder("two turns", lane, 2, 0, 1, 2);
+    }
+
+    /** Each of the calls must look for itself. */
+    private static void orderByOneCall() {
+        DUE.is("flipsAnew alone", 1, () -> alternating().flipsAnew(0, 0));
+        DUE.is("flips alone", 1, () -> alternating().flips(0, 0));
+        DUE.is("ordered alone", 4, () -> alternating().ordered(0, 0, 1));
+    }
+
+    private static PressbrakeLane alternating() {
+        PressbrakeLane lane = withPart(1, "DUDUD", 10, 10, 10, 10, 10, 10);
+        lane.tool(4, 0, 200, 10, 600);
+        return lane;
     }
 
     private static void noOrder() {

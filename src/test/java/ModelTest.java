@@ -1,3 +1,4 @@
+import java.util.Arrays;
 import java.util.Random;
 
 /** Runs of calls, always the same ones, on the program and on the model; their answers must agree. */
@@ -54,7 +55,7 @@ public final class ModelTest {
             String got = outcome(() -> onLane(call, a), call);
             String due = outcome(() -> onModel(call, a), -1);
             if (!got.equals(due)) {
-                DUE.note(false, "run " + run + ", call " + i + ": " + NAMES[call] + " " + java.util.Arrays.toString(a)
+                DUE.note(false, "run " + run + ", call " + i + ": " + NAMES[call] + " " + Arrays.toString(a)
                         + " answered " + got + ", due is " + due);
                 return;
             }
@@ -121,7 +122,8 @@ public final class ModelTest {
             case "redraw":
                 return new int[] {part(), one(100, 60, 10 + run % 290), any(1, 4)};
             case "hole":
-                return new int[] {part(), any(0, most - 1), any(1, lengths[random.nextInt(lengths.length)] - 1), any(1, 20)};
+                int longest = lengths[random.nextInt(lengths.length)];
+                return new int[] {part(), any(0, most - 1), any(1, longest - 1), any(1, 20)};
             case "isNear":
                 return new int[] {part(), any(0, 3)};
             case "told":

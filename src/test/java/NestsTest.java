@@ -9,6 +9,8 @@ public final class NestsTest {
         emptyLot();
         oneRow();
         turnedBlanks();
+        fallingSides();
+        firstRow();
         rowsOfEarlierSheets();
         higherRows();
         newSheets();
@@ -83,6 +85,33 @@ public final class NestsTest {
         PressbrakeLane lane = withParts(40, 100);
         lane.want(0, 2);
         checkNest("the width is the longer side", lane, 200, 50, 1, 1, 2 * 280 - 40, 200 * 50 - 8000);
+    }
+
+    private static void fallingSides() {
+        PressbrakeLane lane = withParts(40, 20, 60, 30, 80, 40);
+        lane.want(0, 3);
+        lane.want(1, 2);
+        lane.want(2, 1);
+        // 80 x 40, then two 60 x 30 with a row each and a 40 x 20 behind it, the third one on a new sheet.
+        checkNest("longer sides first", lane, 100, 100, 2, 4,
+                240 + 2 * 180 + 3 * 120, 20000 - 3200 - 2 * 1800 - 3 * 800);
+        PressbrakeLane alike = withParts(100, 30, 100, 40);
+        alike.want(0, 1);
+        alike.want(1, 1);
+        checkNest("then shorter sides", alike, 200, 70, 1, 1, 260 + 280, 14000 - 7000);
+        PressbrakeLane ordered = withParts(100, 40, 100, 30);
+        ordered.want(0, 1);
+        ordered.want(1, 1);
+        checkNest("whichever part they are of", ordered, 200, 70, 1, 1, 260 + 280, 14000 - 7000);
+    }
+
+    private static void firstRow() {
+        PressbrakeLane lane = withParts(100, 40, 90, 30, 50, 30);
+        lane.want(0, 1);
+        lane.want(1, 1);
+        lane.want(2, 1);
+        // Beside 90 x 30 the last one would have a cut in common; but the first row has room for it.
+        checkNest("the first of two rows with room", lane, 150, 70, 1, 2, 280 + 240 + 160, 10500 - 4000 - 2700 - 1500);
     }
 
     private static void rowsOfEarlierSheets() {
