@@ -48,13 +48,6 @@ public final class BatchesTest {
         lane.work(batch);
     }
 
-    private static void checkBatch(String what, PressbrakeLane lane, int batch, int... due) {
-        for (int i = 0; i < due.length; i++) {
-            int asked = i;
-            DUE.is(what + ", " + i, due[i], () -> lane.batchOf(batch, asked));
-        }
-    }
-
     private static void batch() {
         PressbrakeLane lane = withPart();
         DUE.fails("no such part", Due.INDEX, () -> lane.batch(1, 0, 0));
@@ -72,7 +65,7 @@ public final class BatchesTest {
         DUE.fails("the 21st", Due.STATE, () -> lane.batch(0, 0, 1));
         DUE.fails("the 21st, of no pieces", Due.ARGUMENT, () -> lane.batch(0, 0, 0));
         DUE.fails("the 21st, of no part", Due.INDEX, () -> lane.batch(1, 0, 0));
-        checkBatch("the last one", lane, 19, CUT, 7, 0, 106);
+        DUE.batch("the last one", lane, 19, CUT, 7, 0, 106);
         DUE.fails("there is no 21st", Due.INDEX, () -> lane.batchOf(20, 0));
     }
 
@@ -81,15 +74,15 @@ public final class BatchesTest {
         lane.batch(0, 0, 5);
         lane.batch(0, 0, 6);
         DUE.is("CUT to BENT", BENT, () -> lane.work(0));
-        checkBatch("BENT", lane, 0, BENT, 5, 0, 106);
-        checkBatch("the other one", lane, 1, CUT, 6, 0, 106);
+        DUE.batch("BENT", lane, 0, BENT, 5, 0, 106);
+        DUE.batch("the other one", lane, 1, CUT, 6, 0, 106);
         DUE.is("BENT to COATED", COATED, () -> lane.work(0));
         DUE.fails("COATED", Due.STATE, () -> lane.work(0));
-        checkBatch("COATED", lane, 0, COATED, 5, 0, 106);
+        DUE.batch("COATED", lane, 0, COATED, 5, 0, 106);
         draw(lane, 70, UP, 60);
         lane.redraw(0, 100, 2);
         DUE.fails("SCRAP", Due.STATE, () -> lane.work(1));
-        checkBatch("SCRAP", lane, 1, SCRAP, 6, 0, 106);
+        DUE.batch("SCRAP", lane, 1, SCRAP, 6, 0, 106);
         DUE.fails("no such batch", Due.INDEX, () -> lane.work(2));
         DUE.fails("batch -1", Due.INDEX, () -> lane.work(-1));
     }
@@ -103,7 +96,7 @@ public final class BatchesTest {
         lane.batch(0, 0, 5);
         lane.batch(1, 1, 5);
         DUE.fails("no order by its tool", Due.STATE, () -> lane.work(0));
-        checkBatch("it stays CUT", lane, 0, CUT, 5, 0, 106);
+        DUE.batch("it stays CUT", lane, 0, CUT, 5, 0, 106);
         DUE.is("by the other tool", BENT, () -> lane.work(1));
         DUE.is("no bends at all", BENT, () -> lane.work(2));
         // The blank is as long and 20 is within the gauge, but less than 30 and 2.
@@ -126,8 +119,8 @@ public final class BatchesTest {
         lane.batch(0, 0, 9);
         lane.trial(0, 2, 1);
         lane.batch(0, 0, 8);
-        checkBatch("cut ahead of the trial", lane, 0, CUT, 9, 1, 106);
-        checkBatch("cut behind the trial", lane, 1, CUT, 8, 1, 109);
+        DUE.batch("cut ahead of the trial", lane, 0, CUT, 9, 1, 106);
+        DUE.batch("cut behind the trial", lane, 1, CUT, 8, 1, 109);
         DUE.fails("what -1", Due.ARGUMENT, () -> lane.batchOf(0, -1));
         DUE.fails("what 4", Due.ARGUMENT, () -> lane.batchOf(0, 4));
         DUE.fails("no such batch", Due.INDEX, () -> lane.batchOf(2, 4));
@@ -139,17 +132,17 @@ public final class BatchesTest {
         lane.batch(0, 0, 5);
         draw(lane, 60, DOWN, 50);
         DUE.is("blanks as long", 0, () -> lane.redraw(0, 100, 2));
-        checkBatch("it goes on", lane, 0, CUT, 5, 1, 106);
+        DUE.batch("it goes on", lane, 0, CUT, 5, 1, 106);
         lane.trial(0, 2, 0);
         draw(lane, 60, DOWN, 46);
         DUE.is("as long by the new trial", 0, () -> lane.redraw(0, 100, 2));
-        checkBatch("it goes on", lane, 0, CUT, 5, 2, 106);
+        DUE.batch("it goes on", lane, 0, CUT, 5, 2, 106);
         lane.face(106, UP);
         DUE.is("a face of 106", 0, () -> lane.redraw(0, 100, 2));
-        checkBatch("it goes on", lane, 0, CUT, 5, 3, 106);
+        DUE.batch("it goes on", lane, 0, CUT, 5, 3, 106);
         lane.face(106, UP);
         DUE.is("and the same again", 0, () -> lane.redraw(0, 100, 2));
-        checkBatch("it goes on", lane, 0, CUT, 5, 4, 106);
+        DUE.batch("it goes on", lane, 0, CUT, 5, 4, 106);
     }
 
     private static void cutIsScrap() {
@@ -167,7 +160,7 @@ public final class BatchesTest {
         lane.trial(0, 3, 4);
         draw(lane, first, UP, second);
         DUE.is(what, 5, () -> lane.redraw(0, width, thickness));
-        checkBatch(what, lane, 0, SCRAP, 5, 0, 106);
+        DUE.batch(what, lane, 0, SCRAP, 5, 0, 106);
     }
 
     private static void bentGoesOn() {
@@ -178,11 +171,11 @@ public final class BatchesTest {
         lane.face(50, DOWN);
         lane.face(60, UP);
         DUE.is("the same, but for the first direction and the trial", 0, () -> lane.redraw(0, 100, 2));
-        checkBatch("BENT goes on", lane, 0, BENT, 5, 1, 106);
+        DUE.batch("BENT goes on", lane, 0, BENT, 5, 1, 106);
         lane.work(0);
         draw(lane, 50, UP, 60);
         DUE.is("the same", 0, () -> lane.redraw(0, 100, 2));
-        checkBatch("COATED goes on", lane, 0, COATED, 5, 2, 106);
+        DUE.batch("COATED goes on", lane, 0, COATED, 5, 2, 106);
         DUE.is("and is in kits", 5, () -> lane.kits(1));
     }
 
@@ -213,7 +206,7 @@ public final class BatchesTest {
             lane.face(drawing[3], UP);
         }
         DUE.is(what, 5, () -> lane.redraw(0, width, thickness));
-        checkBatch(what, lane, 0, SCRAP, 5, 0, 106);
+        DUE.batch(what, lane, 0, SCRAP, 5, 0, 106);
         DUE.is(what + ", no kits", 0, () -> lane.kits(1));
     }
 
@@ -223,10 +216,10 @@ public final class BatchesTest {
         lane.take(1, 5);
         draw(lane, 50, UP, 60);
         DUE.is("the same", 0, () -> lane.redraw(0, 100, 2));
-        checkBatch("it goes on", lane, 0, COATED, 0, 1, 106);
+        DUE.batch("it goes on", lane, 0, COATED, 0, 1, 106);
         draw(lane, 50, UP, 61);
         DUE.is("another one", 0, () -> lane.redraw(0, 100, 2));
-        checkBatch("it is SCRAP, of no pieces", lane, 0, SCRAP, 0, 1, 106);
+        DUE.batch("it is SCRAP, of no pieces", lane, 0, SCRAP, 0, 1, 106);
     }
 
     private static void scrapOfSeveral() {
@@ -241,16 +234,16 @@ public final class BatchesTest {
         lane.work(3);
         draw(lane, 60, UP, 50);
         DUE.is("COATED and BENT, not CUT", 3 + 13, () -> lane.redraw(0, 100, 2));
-        checkBatch("COATED", lane, 0, SCRAP, 3, 0, 106);
-        checkBatch("of another part", lane, 1, CUT, 7, 0, 106);
-        checkBatch("CUT", lane, 2, CUT, 11, 1, 106);
-        checkBatch("BENT", lane, 3, SCRAP, 13, 0, 106);
+        DUE.batch("COATED", lane, 0, SCRAP, 3, 0, 106);
+        DUE.batch("of another part", lane, 1, CUT, 7, 0, 106);
+        DUE.batch("CUT", lane, 2, CUT, 11, 1, 106);
+        DUE.batch("BENT", lane, 3, SCRAP, 13, 0, 106);
         draw(lane, 60, UP, 51);
         DUE.is("SCRAP does not count again", 11, () -> lane.redraw(0, 100, 2));
         draw(lane, 60, UP, 51);
         DUE.is("nothing is left", 0, () -> lane.redraw(0, 100, 2));
-        checkBatch("SCRAP stays of its revision", lane, 0, SCRAP, 3, 0, 106);
-        checkBatch("of another part", lane, 1, CUT, 7, 0, 106);
+        DUE.batch("SCRAP stays of its revision", lane, 0, SCRAP, 3, 0, 106);
+        DUE.batch("of another part", lane, 1, CUT, 7, 0, 106);
     }
 
     private static void elderHoles() {
@@ -263,11 +256,11 @@ public final class BatchesTest {
             }
             draw(lane, 50, UP, 60);
             DUE.is("the elder drawing had a hole, " + works, 5, () -> lane.redraw(0, 100, 2));
-            checkBatch("the elder drawing had a hole", lane, 0, SCRAP, 5, 0, 106);
+            DUE.batch("the elder drawing had a hole", lane, 0, SCRAP, 5, 0, 106);
             lane.batch(0, 0, 6);
             draw(lane, 50, UP, 60);
             DUE.is("the elder drawing had none, " + works, 0, () -> lane.redraw(0, 100, 2));
-            checkBatch("the elder drawing had none", lane, 1, CUT, 6, 2, 106);
+            DUE.batch("the elder drawing had none", lane, 1, CUT, 6, 2, 106);
         }
     }
 
@@ -320,13 +313,13 @@ public final class BatchesTest {
         coated(lane, 0, 6);
         coated(lane, 0, 7);
         DUE.is("of the lowest first", 0, () -> lane.take(1, 4));
-        checkBatch("one is left", lane, 0, COATED, 1);
-        checkBatch("the next one is whole", lane, 2, COATED, 6);
+        DUE.batch("one is left", lane, 0, COATED, 1);
+        DUE.batch("the next one is whole", lane, 2, COATED, 6);
         DUE.is("two are emptied", 2, () -> lane.take(1, 7));
-        checkBatch("emptied", lane, 0, COATED, 0);
-        checkBatch("CUT stays", lane, 1, CUT, 9);
-        checkBatch("emptied", lane, 2, COATED, 0);
-        checkBatch("the last one is whole", lane, 3, COATED, 7);
+        DUE.batch("emptied", lane, 0, COATED, 0);
+        DUE.batch("CUT stays", lane, 1, CUT, 9);
+        DUE.batch("emptied", lane, 2, COATED, 0);
+        DUE.batch("the last one is whole", lane, 3, COATED, 7);
         DUE.is("emptied ones don't count again", 0, () -> lane.take(1, 6));
         DUE.is("one kit is left", 1, () -> lane.kits(1));
         DUE.is("the last one", 1, () -> lane.take(1, 1));
@@ -346,13 +339,13 @@ public final class BatchesTest {
         coated(lane, 1, 4);
         coated(lane, 0, 4);
         DUE.is("of two parts", 0, () -> lane.take(5, 3));
-        checkBatch("of part 2", lane, 0, COATED, 1);
-        checkBatch("of part 1, which is not in the kit", lane, 1, COATED, 4);
-        checkBatch("of part 0", lane, 2, COATED, 1);
+        DUE.batch("of part 2", lane, 0, COATED, 1);
+        DUE.batch("of part 1, which is not in the kit", lane, 1, COATED, 4);
+        DUE.batch("of part 0", lane, 2, COATED, 1);
         DUE.fails("part 1 has four, the others one", Due.STATE, () -> lane.take(7, 2));
-        checkBatch("nothing is taken", lane, 1, COATED, 4);
+        DUE.batch("nothing is taken", lane, 1, COATED, 4);
         DUE.is("two are emptied", 2, () -> lane.take(7, 1));
-        checkBatch("of part 1", lane, 1, COATED, 3);
+        DUE.batch("of part 1", lane, 1, COATED, 3);
     }
 
     private static void takeFails() {
@@ -366,7 +359,7 @@ public final class BatchesTest {
         DUE.fails("many 51", Due.ARGUMENT, () -> lane.take(1, 51));
         DUE.fails("many -1", Due.ARGUMENT, () -> lane.take(1, -1));
         DUE.fails("one too many", Due.STATE, () -> lane.take(1, 6));
-        checkBatch("nothing is taken", lane, 0, COATED, 5);
+        DUE.batch("nothing is taken", lane, 0, COATED, 5);
         DUE.is("as many as there are", 1, () -> lane.take(1, 5));
     }
 }

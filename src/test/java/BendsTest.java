@@ -36,15 +36,9 @@ public final class BendsTest {
     /** A part with the lengths and, by the letters U and D, its bends; width 100. */
     private static PressbrakeLane withPart(int thickness, String bends, int... lengths) {
         PressbrakeLane lane = new PressbrakeLane();
-        draw(lane, bends, lengths);
+        Lanes.draw(lane, bends, lengths);
         lane.part(100, thickness);
         return lane;
-    }
-
-    private static void draw(PressbrakeLane lane, String bends, int... lengths) {
-        for (int i = 0; i < lengths.length; i++) {
-            lane.face(lengths[i], i > 0 && bends.charAt(i - 1) == 'D' ? DOWN : UP);
-        }
     }
 
     private static void tool() {
@@ -93,9 +87,9 @@ public final class BendsTest {
 
     private static void blank() {
         PressbrakeLane lane = withPart(2, "UD", 50, 40, 30);
-        draw(lane, "", 70);
+        Lanes.draw(lane, "", 70);
         lane.part(100, 2);
-        draw(lane, "UUUUU", 10, 10, 10, 10, 10, 10);
+        Lanes.draw(lane, "UUUUU", 10, 10, 10, 10, 10, 10);
         lane.part(100, 4);
         lane.tool(4, 0, 10, 10, 20);
         lane.tool(4, 0, 10, 10, 20);
@@ -183,7 +177,7 @@ public final class BendsTest {
 
     private static void whyFails() {
         PressbrakeLane lane = withPart(1, "UU", 30, 30, 30);
-        draw(lane, "", 30);
+        Lanes.draw(lane, "", 30);
         lane.part(100, 1);
         lane.tool(4, 0, 200, 10, 600);
         DUE.fails("no such part", Due.INDEX, () -> lane.why(2, 0, 0, 0));
@@ -269,37 +263,26 @@ public final class BendsTest {
         DUE.fails("done is below 0", Due.ARGUMENT, () -> lane.point(0, -4, 0, true, 0, true));
     }
 
-    private static void checkOrder(String what, PressbrakeLane lane, int turns, int... bends) {
-        DUE.is(what + ", flips", turns, () -> lane.flips(0, 0));
-        DUE.is(what + ", flipsAnew", turns, () -> lane.flipsAnew(0, 0));
-        for (int i = 0; i < bends.length; i++) {
-            int place = i;
-            DUE.is(what + ", place " + i, bends[i], () -> lane.ordered(0, 0, place));
-        }
-        DUE.is(what + ", behind the last place", NONE, () -> lane.ordered(0, 0, bends.length));
-        DUE.is(what + ", far behind", NONE, () -> lane.ordered(0, 0, Integer.MAX_VALUE));
-    }
-
     private static void flips() {
         PressbrakeLane flat = withPart(1, "", 10);
         flat.tool(60, 30, 10, 200, 20);
-        checkOrder("one face", flat, 0);
+        DUE.order("one face", flat, 0, 0);
         PressbrakeLane one = withPart(1, "D", 30, 30);
         one.tool(4, 0, 200, 10, 600);
-        checkOrder("one bend", one, 0, 0);
+        DUE.order("one bend", one, 0, 0, 0);
         PressbrakeLane alike = withPart(1, "DDD", 30, 30, 30, 30);
         alike.tool(4, 0, 200, 10, 600);
         DUE.is("bend 2 behind 0 and 1: 30 back to u = 0, at v = 30", PUNCH, () -> alike.why(0, 0, 3, 2));
-        checkOrder("three alike", alike, 0, 0, 2, 1);
+        DUE.order("three alike", alike, 0, 0, 0, 2, 1);
     }
 
     private static void fewestTurnsFirst() {
         PressbrakeLane lane = withPart(1, "UDU", 30, 30, 30, 30);
         lane.tool(4, 0, 200, 10, 600);
-        checkOrder("one turn instead of two", lane, 1, 0, 2, 1);
+        DUE.order("one turn instead of two", lane, 0, 1, 0, 2, 1);
         PressbrakeLane five = alternating();
         DUE.is("bend 4 behind 0 and 2", PUNCH, () -> five.why(0, 0, 5, 4));
-        checkOrder("all DOWN ones, then all UP ones", five, 1, 0, 4, 2, 1, 3);
+        DUE.order("all DOWN ones, then all UP ones", five, 0, 1, 0, 4, 2, 1, 3);
     }
 
     private static void firstOfSeveral() {
@@ -307,13 +290,13 @@ public final class BendsTest {
         PressbrakeLane lane = withPart(2, "UU", 50, 40, 30);
         lane.tool(16, 5, 60, 40, 300);
         DUE.is("bend 1 behind bend 0", PUNCH, () -> lane.why(0, 0, 1, 1));
-        checkOrder("the possible one of two", lane, 0, 1, 0);
+        DUE.order("the possible one of two", lane, 0, 0, 1, 0);
         // Behind bend 0 the bend 1 is not possible, so of all orders with one turn only 1, 0, 2 and 1, 2, 0 are left.
         PressbrakeLane turned = withPart(1, "UDU", 50, 30, 20, 20);
         turned.tool(4, 0, 40, 60, 600);
         DUE.is("bend 1 behind bend 0", TABLE, () -> turned.why(0, 0, 1, 1));
         DUE.is("bend 0 behind bend 1", CAN, () -> turned.why(0, 0, 2, 0));
-        checkOrder("two of one turn", turned, 1, 1, 0, 2);
+        DUE.order("two of one turn", turned, 0, 1, 1, 0, 2);
     }
 
     private static void twoTurns() {
@@ -322,7 +305,7 @@ public final class BendsTest {
         lane.tool(4, 0, 10, 100, 600);
         DUE.is("bend 1 behind bend 2", TABLE, () -> lane.why(0, 0, 4, 1));
         DUE.is("bend 0 behind bend 1", TABLE, () -> lane.why(0, 0, 2, 0));
-        checkOrder("two turns", lane, 2, 0, 1, 2);
+        DUE.order("two turns", lane, 0, 2, 0, 1, 2);
     }
 
     /** Each of the calls must look for itself. */
@@ -352,12 +335,12 @@ public final class BendsTest {
         DUE.is("the last one is not possible, anew", NONE, () -> half.flipsAnew(0, 0));
         DUE.is("no place of half an order", NONE, () -> half.ordered(0, 0, 0));
         // What an earlier call found must not show in a later one.
-        draw(half, "UDUDU", 20, 20, 20, 20, 20, 20);
+        Lanes.draw(half, "UDUDU", 20, 20, 20, 20, 20, 20);
         half.part(100, 1);
         half.tool(4, 0, 200, 10, 600);
         DUE.is("another part", 1, () -> half.flips(1, 1));
         DUE.is("the first one again", NONE, () -> half.ordered(0, 0, 0));
-        draw(half, "U", 60, 60);
+        Lanes.draw(half, "U", 60, 60);
         half.redraw(0, 100, 1);
         DUE.is("both runs are beyond the gauge", NONE, () -> half.flips(0, 0));
         DUE.is("by the other tool", 0, () -> half.flips(0, 1));
