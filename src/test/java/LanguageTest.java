@@ -15,6 +15,7 @@ public final class LanguageTest {
         "\\bcatch\\b", "static\\s*\\{", "Exact\\(", "\\bSystem\\.(?!arraycopy)", "\\bThread\\b", "\\bRandom\\b",
         "\"\\s*\\+", "\\+\\s*\"", "\\bequals\\(", "\\bhashCode\\(", "\\btoString\\(", "\\bObject\\b",
         "\\bdouble\\b", "\\bfloat\\b",
+        "[^\\x00-\\x7f]", "\\bMath\\.(?!min\\(|max\\()", "\\b(Integer|Long|Arrays|List)\\b",
     };
     private static final Pattern THROWN = Pattern.compile("throw (.*)");
     private static final Pattern ALLOWED = Pattern.compile(
